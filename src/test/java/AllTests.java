@@ -1,0 +1,25 @@
+import java.nio.file.Path;
+
+/** Arguments: the source file of the class, and how many tests passed and failed before. */
+public final class AllTests {
+    private AllTests() {
+    }
+
+    public static void main(String[] args) throws Exception {
+        Tests tests = new Tests(Integer.parseInt(args[1]), Integer.parseInt(args[2]));
+        ExampleTests.runAll(tests);
+        PieceTests.runAll(tests);
+        SeamTests.runAll(tests);
+        SettingTests.runAll(tests);
+        PartTests.runAll(tests);
+        PackingTests.runAll(tests);
+        OrderTests.runAll(tests);
+        SlotTests.runAll(tests);
+        AgreementTests.runAll(tests);
+        SourceTests.runAll(tests, Path.of(args[0]));
+        System.out.println(tests.result());
+        if (!tests.allPassed()) {
+            System.exit(1);
+        }
+    }
+}

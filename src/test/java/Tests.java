@@ -1,0 +1,54 @@
+import java.util.function.Consumer;
+
+/** Runs named tests and counts them; a test fails if one of its answers is not the one due. */
+final class Tests {
+    private int passed;
+    private int failed;
+    private int wrongAnswers;
+    private String running = "";
+
+    Tests(int passed, int failed) {
+        this.passed = passed;
+        this.failed = failed;
+    }
+
+    void run(String name, Consumer<Tests> body) {
+        running = name;
+        wrongAnswers = 0;
+        try {
+            body.accept(this);
+        } catch (RuntimeException | StackOverflowError thrown) {
+            fail("threw " + thrown);
+        }
+        if (wrongAnswers == 0) {
+            passed++;
+        } else {
+            failed++;
+        }
+    }
+
+    void due(String call, long answered, long due) {
+        if (answered != due) {
+            fail(call + " answered " + answered + ", due is " + due);
+        }
+    }
+
+    void due(String call, boolean answered, boolean due) {
+        due(call, answered ? 1 : 0, due ? 1 : 0);
+    }
+
+    void fail(String what) {
+        wrongAnswers++;
+        if (wrongAnswers <= 10) {
+            System.out.println(running + ": " + what);
+        }
+    }
+
+    boolean allPassed() {
+        return failed == 0;
+    }
+
+    String result() {
+        return passed + " passed, " + failed + " failed";
+    }
+}
