@@ -45,13 +45,13 @@ public final class GarmentMarker {
                 || !isWithin(lengthGrowth, 0, 3) || !isWithin(copies, 1, MOST_COPIES)) {
             return OUT_OF_RANGE;
         }
-        Piece defined = now.pieces[piece];
-        defined.defined = true;
-        defined.width = width;
-        defined.length = length;
-        defined.widthGrowth = widthGrowth;
-        defined.lengthGrowth = lengthGrowth;
-        defined.copies = copies;
+        Piece target = now.pieces[piece];
+        target.defined = true;
+        target.width = width;
+        target.length = length;
+        target.widthGrowth = widthGrowth;
+        target.lengthGrowth = lengthGrowth;
+        target.copies = copies;
         return now.definedPieces();
     }
 

@@ -123,6 +123,12 @@ final class OrderTests {
         x.setOrdered(0, 10);
         t.due("bestMix() of one size", x.bestMix(), 200);
         t.due("bestMixCloth() of one size", x.bestMixCloth(), 20);
+        x.definePiece(0, 4, 4, 0, 0, 1);
+        x.setOrdered(0, 3);
+        t.due("bestMix() takes no ratio above 2", x.bestMix(), 200);
+        t.due("bestMixCloth() takes no ratio above 2", x.bestMixCloth(), 8);
+        x.definePiece(0, 6, 4, 0, 0, 1);
+        x.setOrdered(0, 10);
         x.setOrdered(1, 5);
         t.due("bestMix() of two sizes", x.bestMix(), 210);
         t.due("bestMixCloth() of two sizes", x.bestMixCloth(), 40);

@@ -17,6 +17,7 @@ final class PackingTests {
         tests.run("promise 26: wastedArea", PackingTests::waste);
         tests.run("promise 27: markerLengthWith", PackingTests::lengthWith);
         tests.run("promises 28 and 29: bestLength and bestPacking", PackingTests::best);
+        tests.run("promises 27 to 29: each packing is once the best", PackingTests::eachBest);
         tests.run("promises 28 and 29: a tie, no parts, no layout", PackingTests::bestEdges);
     }
 
@@ -124,6 +125,9 @@ final class PackingTests {
         x.definePiece(3, 1, 1, 0, 0, 1);
         places(t, x, new int[][] {{0, 0}, {3, 0}, {0, 2}, {5, 0}});
         t.due("markerLength()", x.markerLength(), 6);
+        x.definePiece(0, 1, 3, 0, 0, 2);
+        x.definePiece(1, 2, 2, 0, 0, 1);
+        places(t, x, new int[][] {{0, 0}, {3, 0}, {0, 1}, {5, 0}});
     }
 
     /** Four parts; each order begins with another one. */
@@ -247,6 +251,37 @@ final class PackingTests {
         x.removePiece(2);
         t.due("bestLength() by shelves", x.bestLength(), 9);
         t.due("bestPacking() by shelves", x.bestPacking(), 1);
+    }
+
+    /** Widths and lengths of the pieces, and the marker lengths by the eight packings. */
+    private static final int[][][] EACH_BEST = {
+        {{4, 6, 7, 3, 6, 6, 6, 4}, {12, 13, 15, 13, 13, 13, 13, 13}},
+        {{7, 4, 6, 4, 6, 3, 2, 6}, {14, 10, 14, 14, 13, 11, 13, 13}},
+        {{5, 6, 6, 6, 4, 2, 6, 5, 3, 6}, {19, 14, 12, 17, 14, 13, 14, 13}},
+        {{6, 5, 7, 2, 4, 6, 6, 6}, {13, 13, 13, 12, 13, 13, 13, 13}},
+        {{6, 1, 5, 5, 2, 6, 7, 4}, {12, 11, 16, 15, 9, 10, 11, 10}},
+        {{7, 2, 5, 1, 1, 4}, {6, 5, 6, 6, 5, 4, 5, 5}},
+        {{5, 6, 6, 4, 3, 5, 6, 2}, {11, 10, 10, 11, 11, 11, 9, 11}},
+        {{4, 5, 7, 2, 7, 4, 4, 5}, {14, 11, 11, 11, 10, 11, 10, 9}}};
+
+    private static void eachBest(Tests t) {
+        for (int best = 0; best < 8; best++) {
+            int[] sides = EACH_BEST[best][0];
+            int[] lengths = EACH_BEST[best][1];
+            GarmentMarker x = new GarmentMarker();
+            for (int piece = 0; piece < sides.length / 2; piece++) {
+                x.definePiece(piece, sides[2 * piece], sides[2 * piece + 1], 0, 0, 1);
+            }
+            String marker = "marker " + best + ": ";
+            for (int i = 0; i < 8; i++) {
+                t.due(marker + "markerLengthWith(" + i / 4 + ", " + i % 4 + ")",
+                        x.markerLengthWith(i / 4, i % 4), lengths[i]);
+                x.setPacking(i / 4, i % 4);
+                t.due(marker + "markerLength()", x.markerLength(), lengths[i]);
+                t.due(marker + "bestLength()", x.bestLength(), lengths[best]);
+                t.due(marker + "bestPacking()", x.bestPacking(), best / 4 * 10 + best % 4);
+            }
+        }
     }
 
     private static void bestEdges(Tests t) {

@@ -11,6 +11,7 @@ final class PartTests {
         tests.run("promises 19 and 20: partSize and partPiece", PartTests::nesting);
         tests.run("promises 19 and 20: folded", PartTests::foldedNesting);
         tests.run("promises 19, 20, 23, 24: no such part", PartTests::noSuchPart);
+        tests.run("promises 17 to 20, 23, 24: from the current state", PartTests::currentState);
         tests.run("promises 23 and 24: extents without rotation", PartTests::normalWay);
         tests.run("promises 23 and 24: extents with rotation", PartTests::rotation);
         tests.run("promises 23 and 24: extents of fold parts", PartTests::foldParts);
@@ -109,6 +110,37 @@ final class PartTests {
         t.due("partPiece(" + part + ")", x.partPiece(part), -1004);
         t.due("partAlongExtent(" + part + ")", x.partAlongExtent(part), -1004);
         t.due("partAcrossExtent(" + part + ")", x.partAcrossExtent(part), -1004);
+    }
+
+    /** Each question is the first one after a change, so none may lean on the one before. */
+    private static void currentState(Tests t) {
+        GarmentMarker x = new GarmentMarker();
+        x.definePiece(0, 3, 4, 1, 1, 1);
+        t.due("partSize(0)", x.partSize(0), 0);
+        x.setRatio(0, 0);
+        t.due("partSize(0)", x.partSize(0), -1004);
+        x.setRatio(1, 1);
+        t.due("partSize(0)", x.partSize(0), 1);
+        x.removePiece(0);
+        t.due("partPiece(0)", x.partPiece(0), -1004);
+        x.definePiece(2, 3, 4, 1, 1, 1);
+        t.due("partPiece(0)", x.partPiece(0), 2);
+        x.setRatio(1, 0);
+        t.due("partAlongExtent(0)", x.partAlongExtent(0), -1004);
+        x.setRatio(2, 1);
+        t.due("partAlongExtent(0)", x.partAlongExtent(0), 6);
+        x.setRatio(2, 0);
+        t.due("partAcrossExtent(0)", x.partAcrossExtent(0), -1004);
+        x.setRatio(1, 2);
+        t.due("partAcrossExtent(0)", x.partAcrossExtent(0), 4);
+        x.setFolded(true);
+        t.due("foldPartCount()", x.foldPartCount(), 2);
+        x.setRatio(1, 1);
+        t.due("partCount()", x.partCount(), 1);
+        x.goodMixes();
+        t.due("partCount() after goodMixes()", x.partCount(), 1);
+        x.bestMix();
+        t.due("partAcrossExtent(0) after bestMix()", x.partAcrossExtent(0), 2);
     }
 
     private static void extents(Tests t, GarmentMarker x, int part, int across, int along) {

@@ -10,6 +10,7 @@ final class SeamTests {
         tests.run("promise 8: seamDifference", SeamTests::difference);
         tests.run("promise 8: seamDifference, its errors", SeamTests::differenceErrors);
         tests.run("promises 9 and 10: matchingSeams and firstMismatch", SeamTests::matching);
+        tests.run("promises 9 and 10: six seams, and removed ones", SeamTests::bounds);
         tests.run("promises 9 and 10: a mismatch in one size alone", SeamTests::oneSize);
     }
 
@@ -107,6 +108,26 @@ final class SeamTests {
         x.addSeam(0, 0, 0, 0, -1);
         t.due("matchingSeams()", x.matchingSeams(), 3);
         t.due("firstMismatch()", x.firstMismatch(), 2);
+    }
+
+    private static void bounds(Tests t) {
+        GarmentMarker x = twoPieces();
+        for (int seam = 0; seam < 6; seam++) {
+            x.addSeam(seam < 3 ? 0 : 5, 0, seam < 3 ? 0 : 5, 0, seam < 3 ? 0 : 1);
+        }
+        t.due("matchingSeams() of six", x.matchingSeams(), 3);
+        t.due("firstMismatch() of six", x.firstMismatch(), 3);
+        x.removePiece(5);
+        t.due("matchingSeams() without the removed", x.matchingSeams(), 3);
+        t.due("firstMismatch() without the removed", x.firstMismatch(), -1010);
+        for (int seam = 3; seam < 6; seam++) {
+            x.addSeam(0, 0, 0, 0, 0);
+        }
+        t.due("matchingSeams() of six equal", x.matchingSeams(), 6);
+        t.due("firstMismatch() of six equal", x.firstMismatch(), -1010);
+        x.removePiece(0);
+        t.due("matchingSeams() after all are removed", x.matchingSeams(), 0);
+        t.due("firstMismatch() after all are removed", x.firstMismatch(), -1010);
     }
 
     private static void oneSize(Tests t) {
