@@ -1,7 +1,8 @@
 /** Long runs of mixed calls, the same ones each time, whose answers PlainMarker gives too. */
 final class AgreementTests {
-    private static final int RUNS = 120;
-    private static final int CALLS = 250;
+    private static final int RUNS = 90;
+    /** A step makes at most five calls, and an object is made for 512. */
+    private static final int CALLS = 512 - 4;
     private static final int KINDS = 39;
 
     private long seed;
@@ -41,8 +42,10 @@ final class AgreementTests {
             AgreementTests source = new AgreementTests(run + RUNS * flavour);
             GarmentMarker x = new GarmentMarker();
             PlainMarker plain = new PlainMarker();
-            for (int call = 0; call < CALLS; call++) {
-                source.step(t, x, plain, flavour, "run " + run + ", call " + call);
+            long before = t.answers();
+            while (t.answers() - before < CALLS) {
+                String at = "run " + run + ", call " + (t.answers() - before);
+                source.step(t, x, plain, flavour, at);
             }
         }
     }

@@ -15,8 +15,17 @@ public final class AllTests {
         PackingTests.runAll(tests);
         OrderTests.runAll(tests);
         SlotTests.runAll(tests);
+        RangeTests.runAll(tests);
+        CheckOrderTests.runAll(tests);
+        SeamEdgeTests.runAll(tests);
+        PartEdgeTests.runAll(tests);
+        PackingEdgeTests.runAll(tests);
+        OrderEdgeTests.runAll(tests);
+        SlotEdgeTests.runAll(tests);
         AgreementTests.runAll(tests);
-        SourceTests.runAll(tests, Path.of(args[0]));
+        AnyArgumentTests.runAll(tests);
+        FaceTests.runAll(tests);
+        LanguageTests.runAll(tests, Path.of(args[0]));
         System.out.println(tests.result());
         if (!tests.allPassed()) {
             System.exit(1);

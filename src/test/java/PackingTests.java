@@ -6,7 +6,7 @@ final class PackingTests {
     static void runAll(Tests tests) {
         tests.run("promises 21 and 22: their errors", PackingTests::placeErrors);
         tests.run("promises 21 and 22: shelves by index", PackingTests::shelves);
-        tests.run("promises 21 and 22: the first shelf that holds a part", PackingTests::firstShelf);
+        tests.run("promises 21 and 22: the first of the shelves", PackingTests::firstShelf);
         tests.run("promises 21 and 22: shelves and fold parts", PackingTests::foldShelves);
         tests.run("promises 21 and 22: first free", PackingTests::firstFree);
         tests.run("promises 21 and 22: first free fills holes", PackingTests::firstFreeHole);

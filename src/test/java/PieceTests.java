@@ -65,8 +65,8 @@ final class PieceTests {
             for (int value : wrong) {
                 int[] a = least.clone();
                 a[i] = value;
-                t.due("argument " + i + " = " + value, x.definePiece(0, a[0], a[1], a[2], a[3], a[4]),
-                        -1005);
+                t.due("argument " + i + " = " + value,
+                        x.definePiece(0, a[0], a[1], a[2], a[3], a[4]), -1005);
             }
         }
         t.due("pieceWidth(0, 0) after errors", x.pieceWidth(0, 0), -1001);

@@ -66,7 +66,8 @@ final class PlainMarker {
     private State s = new State();
     private final State[] slots = new State[2];
 
-    int definePiece(int piece, int width, int length, int widthGrowth, int lengthGrowth, int copies) {
+    int definePiece(int piece, int width, int length, int widthGrowth, int lengthGrowth,
+            int copies) {
         if (piece < 0 || piece > 5) {
             return -1001;
         }

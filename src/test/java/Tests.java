@@ -5,6 +5,7 @@ final class Tests {
     private int passed;
     private int failed;
     private int wrongAnswers;
+    private long answers;
     private String running = "";
 
     Tests(int passed, int failed) {
@@ -28,6 +29,7 @@ final class Tests {
     }
 
     void due(String call, long answered, long due) {
+        answers++;
         if (answered != due) {
             fail(call + " answered " + answered + ", due is " + due);
         }
@@ -42,6 +44,11 @@ final class Tests {
         if (wrongAnswers <= 10) {
             System.out.println(running + ": " + what);
         }
+    }
+
+    /** How many answers were looked at. */
+    long answers() {
+        return answers;
     }
 
     boolean allPassed() {
