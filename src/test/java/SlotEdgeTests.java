@@ -19,6 +19,8 @@ final class SlotEdgeTests {
         tests.run("no question changes anything", SlotEdgeTests::questions);
         tests.run("promise 1: two objects have nothing in common", SlotEdgeTests::twoObjects);
         tests.run("settings: what is set again stays", SlotEdgeTests::setAgain);
+        tests.run("an object's 512 calls, each a change", SlotEdgeTests::changesToTheLast);
+        tests.run("an object's 512 calls, each a question", SlotEdgeTests::questionsToTheLast);
     }
 
     /** Each part of the state by itself: changed after the save, and back after the restore. */
@@ -265,5 +267,28 @@ final class SlotEdgeTests {
             t.due("setPacking(1, 2)", x.setPacking(1, 2), 12);
             t.due("definePiece(0)", x.definePiece(0, 6, 8, 1, 2, 2), 3);
         });
+    }
+
+    /** Pieces and seams come and go, so that nothing may fill up on the way. */
+    private static void changesToTheLast(Tests t) {
+        GarmentMarker x = new GarmentMarker();
+        for (int call = 0; call < 512; call += 4) {
+            int piece = call / 4 % 6;
+            t.due("definePiece", x.definePiece(piece, 3, 4, 0, 0, 2), 1);
+            t.due("addSeam", x.addSeam(piece, 0, piece, 1, 0), 0);
+            t.due("save", x.save(piece % 2), 1);
+            t.due("removePiece", x.removePiece(piece), 0);
+        }
+    }
+
+    private static void questionsToTheLast(Tests t) {
+        GarmentMarker x = Start.FULL.make();
+        x.setPacking(1, 2);
+        int mix = x.bestMix();
+        int length = x.markerLength();
+        for (int calls = 50; calls < 512; calls += 2) {
+            t.due("bestMix()", x.bestMix(), mix);
+            t.due("markerLength()", x.markerLength(), length);
+        }
     }
 }
