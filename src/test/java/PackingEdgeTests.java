@@ -227,7 +227,7 @@ final class PackingEdgeTests {
         places(t, pieces(12, 5, 6, 2, 1, 3, 4, 2, 6), 0, 0, 0, 5, 0, 7, 0, 10);
     }
 
-    /** The last two parts go into earlier shelves, and the next shelf starts behind all. */
+    /** Two parts go into earlier shelves, and the next shelf still starts behind all. */
     private static void starts(Tests t) {
         places(t, pieces(12, 9, 4, 9, 7, 9, 2, 3, 7, 3, 1, 9, 1), 0, 0, 4, 0, 11, 0, 4, 9, 0, 9,
                 13, 0);
