@@ -6,7 +6,8 @@ final class Tests {
     private int failed;
     private int wrongAnswers;
     private long answers;
-    private String running = "";
+    /** The watch reads it from another thread. */
+    private volatile String running = "";
 
     Tests(int passed, int failed) {
         this.passed = passed;
@@ -18,7 +19,7 @@ final class Tests {
         wrongAnswers = 0;
         try {
             body.accept(this);
-        } catch (RuntimeException | StackOverflowError thrown) {
+        } catch (RuntimeException | Error thrown) {
             fail("threw " + thrown);
         }
         if (wrongAnswers == 0) {
@@ -53,6 +54,11 @@ final class Tests {
 
     boolean allPassed() {
         return failed == 0;
+    }
+
+    /** The result if the test that is running never ends. */
+    String stopped(String why) {
+        return running + ": " + why + "\n" + passed + " passed, " + (failed + 1) + " failed";
     }
 
     String result() {
